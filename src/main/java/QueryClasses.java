@@ -474,12 +474,12 @@ public final class QueryClasses {
 
         static long bitsOfDouble(double x) {
             long bits = encoded(magnitude(x), DOUBLE_FRACTION, DOUBLE_BIAS);
-            return isMinus(x) ? bits | Long.MIN_VALUE : bits;
+            return isMinus(x) ? bits | 1L << 63 : bits;
         }
 
         static long bitsOfFloat(double x) {
             int bits = (int) encoded(magnitude(x), FLOAT_FRACTION, FLOAT_BIAS);
-            return isMinus(x) ? bits | Integer.MIN_VALUE : bits;
+            return isMinus(x) ? bits | 1 << 31 : bits;
         }
 
         private static boolean isNoNumber(long bits, int fraction, int bias) {
@@ -1188,7 +1188,7 @@ public final class QueryClasses {
             kind = J;
             target = NONE;
             order = 0;
-            first = Integer.MAX_VALUE;
+            first = MOST_OBJECTS;
             scanner.start();
         }
 

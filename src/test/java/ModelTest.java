@@ -56,7 +56,7 @@ public final class ModelTest {
     }
 
     private void turn(int i, int n) {
-        String text = i % 4 == 0 ? noise() : i % 4 == 1 ? spoilt(queryText()) : queryText();
+        String text = textOf(i % 8);
         if (text.length() > 400) {
             text = text.substring(0, 400);
         }
@@ -175,6 +175,89 @@ public final class ModelTest {
             return Float.floatToRawIntBits(f) | (way == 7 ? 1L << 40 : 0);
         }
         return way < 5 ? random.nextInt(9) - 2 : WHOLES[random.nextInt(WHOLES.length)];
+    }
+
+    private String textOf(int way) {
+        switch (way) {
+            case 0:
+                return noise();
+            case 1:
+                return spoilt(queryText());
+            case 2:
+                return deepText();
+            case 3:
+                return longText();
+            case 4:
+                return "find " + kindless(1 + random.nextInt(4)) + "=" + kindless(2);
+            default:
+                return queryText();
+        }
+    }
+
+    /** Some 6 to 18 openings, one within the other, now and then with much on the PILE. */
+    private String deepText() {
+        StringBuilder s = new StringBuilder();
+        StringBuilder ends = new StringBuilder();
+        int n = 6 + random.nextInt(13);
+        boolean heavy = random.nextBoolean();
+        for (int i = 0; i < n; i++) {
+            String pending = heavy ? pick("1+", "1|1<<1+", "2*", "row-", "1.5*", "$4+") : pick("", "", "1+");
+            switch (random.nextInt(6)) {
+                case 0:
+                    s.append(pending).append(pick("-", "~", "- "));
+                    break;
+                case 1:
+                    s.append(pending).append(pick("(yes ? ", "(no and not no ? "));
+                    ends.insert(0, " : 1)");
+                    break;
+                case 2:
+                    s.append(pending).append(pick("min(1,", "abs(", "int(", "max(2,"));
+                    ends.insert(0, ")");
+                    break;
+                case 3:
+                    s.append(pending).append("$5[int(");
+                    ends.insert(0, ")]");
+                    break;
+                default:
+                    s.append(pending).append("(");
+                    ends.insert(0, ")");
+            }
+        }
+        return pick("find no order ", "set $4 := ", "fold sum ", "fold count by ") + s + "1" + ends + pick("", " ", ")");
+    }
+
+    /** About as many ACTS as a PART may have, or more. */
+    private String longText() {
+        StringBuilder s = new StringBuilder(pick("find no order ", "fold max ", "set $4 := ", "fold count where 1=", "find 0<"));
+        int most = 280 + random.nextInt(120);
+        String[] some = {pick("1", "row", "$4", "2.5", "(yes?1:2)"), pick("1", "row", "1.5")};
+        while (s.length() < most) {
+            s.append(some[random.nextInt(8) == 0 ? 1 : 0]).append(pick("+", "-", "*"));
+        }
+        s.append('1');
+        return s.length() > 400 ? s.substring(0, 399) + "1" : s.toString();
+    }
+
+    /** A sum by the grammar, whatever the KINDS are. */
+    private String kindless(int deep) {
+        if (deep <= 0) {
+            return pick("1", "row", "1.5", "yes", column(0, 7), column(1, 7), column(1, 5), "1<2", "$3[" + column(1, 5) + "]");
+        }
+        switch (random.nextInt(8)) {
+            case 0:
+                return pick("-", "~") + "(" + kindless(deep - 1) + ")";
+            case 1:
+                return "(not " + kindless(deep - 1) + ")";
+            case 2:
+                return pick("abs", "floor", "sign", "byte", "long", "float") + "(" + kindless(deep - 1) + ")";
+            case 3:
+                return pick("min", "max") + "(" + kindless(deep - 1) + "," + kindless(0) + ")";
+            case 4:
+                return "(" + kindless(deep - 1) + "?" + kindless(0) + ":" + kindless(deep - 1) + ")";
+            default:
+                return "(" + kindless(deep - 1) + " " + pick("+", "*", "%", "&", "^", "<<", ">>>", "and", "or", "=", "<", "|")
+                    + " " + kindless(deep - 1) + ")";
+        }
     }
 
     private String noise() {
