@@ -884,7 +884,7 @@ final class PlainModel {
         }
     }
 
-    private static Object unary(int op, Object v) {
+    static Object unary(int op, Object v) {
         if (op >= 1500 && op < 1510) {
             int c = (Integer) v;
             boolean[] is = {c == 0, c != 0, c < 0, c > 0, c <= 0, c >= 0};
@@ -926,7 +926,7 @@ final class PlainModel {
         }
     }
 
-    private static Object binary(int op, Object x, Object y) {
+    static Object binary(int op, Object x, Object y) {
         int k = op % 10;
         if (op > 900 && op < 1200) return shifted(op / 100, x, (Integer) y);
         Object made;

@@ -17,6 +17,7 @@ public final class RunTest {
         cellFaults();
         numberFaults();
         noFaults();
+        piles();
         foldFaults();
         undone();
         actsDone();
@@ -92,6 +93,7 @@ public final class RunTest {
         hits(x, "find $0=3", 0, 2);
         hits(x, "find $1", 0, 3, 4);
         hits(x, "find not $1", 1, 2);
+        hits(x, "find (not $1)=yes", 1, 2);
         hits(x, "find $1 and $0>0", 0, 4);
         hits(x, "find $1 or $0<0", 0, 1, 3, 4);
         hits(x, "find row>1 first 2", 2, 3);
@@ -360,6 +362,16 @@ public final class RunTest {
         hits(x, "find -$7=$7 and abs($7)=$7 and $7/-1=$7 and $7%-1=0", 0);
         hits(x, "find 1<<33=2 and long(1)<<33=long(65536)*131072", 0);
         hits(x, "find $6>>31=-1 and $6>>>31=1 and $7>>>63=1 and $7>>63=-1", 0);
+    }
+
+    /** Where two ways meet, as much lies on the PILE; 24 on it are no fault. */
+    private static void piles() {
+        QueryClasses x = made(2);
+        String pending = "1+1*(".repeat(10);
+        ran(x, "fold max " + pending + "1+(row=0?1:2*3)" + ")".repeat(10));
+        group(x, 0, 2, 0, 10 + 1 + 6);
+        ran(x, "fold sum " + pending + "1+1*(1+row)" + ")".repeat(10));
+        group(x, 0, 2, 0, 2 * 12 + 1);
     }
 
     private static void foldFaults() {

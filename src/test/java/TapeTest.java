@@ -5,6 +5,7 @@ public final class TapeTest {
     public static void main(String[] args) {
         feeding();
         ending();
+        staleBytes();
         asking();
         twelve();
         CHECK.close();
@@ -57,6 +58,31 @@ public final class TapeTest {
         due("bytes then", x.count(3), 8);
         due("cut bytes do not come back", x.query(), 0);
         due("its acts", x.acts(0, 0), 1);
+    }
+
+    /** What was cut off, or told before, is never read. */
+    private static void staleBytes() {
+        QueryClasses x = new QueryClasses();
+        Check.tell(x, "find 1>>>1=1");
+        x.end(8);
+        due("cut within a SIGN", x.query(), -18);
+        due("the end", x.fault(), 2);
+        Check.tell(x, "find 1=12345");
+        x.end(8);
+        due("cut within a NUMBER", x.query(), 0);
+        due("it is 1", x.act(0, 0, 1, 1), 1);
+        Check.tell(x, "find yes or no");
+        x.end(10);
+        due("cut within a WORD", x.query(), -19);
+        due("another one", x.fault(), 2);
+        Check.tell(x, "find $0");
+        x.end(6);
+        due("cut within a COLUMN", x.query(), -15);
+        due("no TOKEN", x.fault(), 1);
+        Check.tell(x, "find 1=1.5");
+        x.end(9);
+        due("cut within a REAL", x.query(), -18);
+        due("no TOKEN again", x.fault(), 1);
     }
 
     private static void asking() {

@@ -9,6 +9,7 @@ public final class TextTest {
         unfit();
         missing();
         tooLong();
+        piles();
         whichIsFirst();
         fine();
         CHECK.close();
@@ -54,6 +55,10 @@ public final class TextTest {
         faulty("find 1=.5", 1, 7);
         faulty("find 1=1.5.5", 1, 10);
         faulty("find 1=1.5.", 1, 10);
+        faulty("find `", 1, 5);
+        faulty("find {", 1, 5);
+        faulty("find $:", 1, 5);
+        faulty("find $/", 1, 5);
         good("find 1=2147483647");
         good("find 1=00000000000000000001");
         good("find 1=1234567.89");
@@ -66,6 +71,9 @@ public final class TextTest {
         faulty("   \n ", 2, 5);
         faulty("yes", 2, 0);
         faulty("findyes", 2, 0);
+        faulty("findz yes", 2, 0);
+        faulty("zfind yes", 2, 0);
+        faulty("fin yes", 2, 0);
         faulty("find", 2, 4);
         faulty("find ", 2, 5);
         faulty("find find", 2, 5);
@@ -266,6 +274,9 @@ public final class TextTest {
         CHECK.due("just 200", Check.query(x, "fold max -" + two), 1);
         CHECK.due("acts", x.acts(1, 1), 200);
         faulty("fold max --" + two, 6, 11 + two.length());
+        faulty("fold max (-" + two + ")+1.5", 6, 16 + two.length());
+        good("fold max yes?(" + times("1+", 97) + "1):1.5");
+        faulty("fold max yes?(-" + times("1+", 97) + "1):1.5", 6, 15 + 195 + 5);
         faulty("fold max --" + two + "  ", 6, 13 + two.length());
         faulty("fold max " + times("1+", 195) + "1", 6, 400);
         faulty("find 1=" + two, 6, 7 + two.length());
@@ -282,6 +293,36 @@ public final class TextTest {
         good("set $4 := " + four + "1|1<<1" + times(")", 5));
         good("set $4 := " + four + "1|1<<(yes?1:2)" + times(")", 5) + " where yes");
         good("fold max " + four + "1|1<<1+(yes and no or yes?1:2)" + times(")", 5));
+    }
+
+    /** With 23 below them these need no more than one place on the PILE; with 24 they do. */
+    private static void piles() {
+        String pending = "";
+        for (int i = 0; i < 5; i++) {
+            pending += "1|1<<1+1*(";
+        }
+        String[] leaves = {"1", "row", "$4", "$4[1]", "-1", "~1", "byte(1)", "(yes?1:2)", "(yes and no or not no?1:2)",
+            "abs(1)", "int(floor(1))", "int(1.5)", "(yes?int(1.5):2)", "($0?1:2)", "(not $0[1]?1:2)"};
+        String behind = pending.substring(1);
+        for (String leaf : leaves) {
+            good("fold max " + pending + "1|1<<1+" + leaf + ")))))");
+            String more = pending + "1|1<<1+1*" + leaf + ")))))";
+            faulty("fold max " + more, 6, 9 + more.length());
+            // What lies below all else counts for one as well.
+            good("fold max " + leaf + behind + "1|1<<1+1)))))");
+            more = leaf + behind + "1|1<<1+1*1)))))";
+            faulty("fold max " + more, 6, 9 + more.length());
+        }
+        String[] twos = {"1+1", "min(1,1)", "(1<1?1:2)", "(1=1 or 1=1?1:2)", "$4[1+1]"};
+        for (String two : twos) {
+            good("fold max " + pending + "1|1<<(" + two + "))))))");
+            String more = pending + "1|1<<1+(" + two + "))))))";
+            faulty("fold max " + more, 6, 9 + more.length());
+            more = "(" + two + ")" + behind + "1|1<<1+1*1)))))";
+            faulty("fold max " + more, 6, 9 + more.length());
+        }
+        good("set $4 := 1");
+        good("fold max " + pending + "1|1<<1+1))))) by " + pending + "1|1<<1+1)))))");
     }
 
     /** The FAULT that is met first as the text is read is told. */
