@@ -519,14 +519,15 @@ public final class QueryClasses {
         private static int powerOf(double x) {
             int power = 0;
             double rest = x;
-            // Twice 512, as the least double is 2 to -1074.
+            // Twice, as all steps together are 1023 and the least double is 2 to -1074.
             for (int twice = 0; twice < 2; twice++) {
                 for (int step = 512; step >= 1; step /= 2) {
-                    if (rest >= 2 && scaled(rest, -step) >= 1) {
-                        rest = scaled(rest, -step);
+                    double factor = twoTo(step);
+                    if (rest / factor >= 1) {
+                        rest /= factor;
                         power += step;
-                    } else if (rest < 1 && scaled(rest, step) < 2) {
-                        rest = scaled(rest, step);
+                    } else if (rest * factor < 2) {
+                        rest *= factor;
                         power -= step;
                     }
                 }
@@ -534,23 +535,28 @@ public final class QueryClasses {
             return power;
         }
 
-        /** x times 2 to the power; in two halves, as 2 to 1074 itself is no double. */
+        /** x times 2 to the power; step by step, as 2 to 1074 itself is no double. */
         private static double scaled(double x, int power) {
-            int half = power / 2;
-            return timesPower(timesPower(x, half), power - half);
-        }
-
-        private static double timesPower(double x, int power) {
             double product = x;
-            double factor = power < 0 ? 0.5 : 2.0;
             int left = power < 0 ? -power : power;
-            for (int bit = 0; bit < 10; bit++) {
-                if (((left >> bit) & 1) != 0) {
-                    product *= factor;
+            for (int twice = 0; twice < 2; twice++) {
+                for (int step = 512; step >= 1; step /= 2) {
+                    if (left >= step) {
+                        product = power < 0 ? product / twoTo(step) : product * twoTo(step);
+                        left -= step;
+                    }
                 }
-                factor *= factor;
             }
             return product;
+        }
+
+        /** For 1, 2, 4 .. 512. */
+        private static double twoTo(int step) {
+            double power = 2.0;
+            for (int s = 1; s < step; s *= 2) {
+                power *= power;
+            }
+            return power;
         }
 
         static boolean isEndless(double x) {
