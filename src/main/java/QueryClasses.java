@@ -87,10 +87,10 @@ public final class QueryClasses {
     }
 
     public int put(int c, int i, long v) {
-        // A number that no CELL can ever have is BAD, also of a COLUMN that is MISSING.
-        if (!Columns.isColumn(c) || i < 0 || i >= Columns.CELLS) {
+        if (!Columns.isColumn(c)) {
             return BAD;
         }
+        // Ahead of the CELL's number: only a row tells which numbers its CELLS have.
         if (columns.laneOf(c) == NONE) {
             return NO;
         }

@@ -142,10 +142,10 @@ final class PlainModel {
     }
 
     int put(int c, int i, long v) {
-        if (!isColumn(c) || i < 0 || i > 15) return -1;
+        if (!isColumn(c)) return -1;
         Object row = columns[c];
         if (row == null) return -3;
-        if (i >= size(row)) return -1;
+        if (i < 0 || i >= size(row)) return -1;
         switch (lane(row)) {
             case 0: ((boolean[]) row)[i] = v != 0; break;
             case 1: ((byte[]) row)[i] = (byte) v; break;

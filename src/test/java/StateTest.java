@@ -10,6 +10,7 @@ public final class StateTest {
         sharing();
         dropping();
         putting();
+        putsOnMissing();
         putsNoNumbers();
         cellsOfReals();
         counting();
@@ -144,11 +145,45 @@ public final class StateTest {
         due("put before 0", x.put(4, -1, 1), QueryClasses.BAD);
         due("put column 10", x.put(10, 0, 1), QueryClasses.BAD);
         due("put column -1", x.put(-1, 0, 1), QueryClasses.BAD);
-        due("put missing", x.put(8, 0, 1), QueryClasses.NO);
-        due("put missing, a cell that none has", x.put(8, 16, 1), QueryClasses.BAD);
         due("cell column 10", x.cell(10, 0), LOST);
         due("cell -1", x.cell(0, -1), LOST);
         due("cell missing", x.cell(8, 0), LOST);
+    }
+
+    /** Some 400 calls for each number, on an object of its own: nothing is told of more than 512. */
+    private static void putsOnMissing() {
+        for (int i : new int[] {Integer.MIN_VALUE, -17, -1, 0, 1, 2, 15, 16, 17, 400, Integer.MAX_VALUE}) {
+            QueryClasses x = new QueryClasses();
+            hasNoCells(x, 0, 9, i);
+            for (int lane = 0; lane < 8; lane++) {
+                x.column(lane, lane, 2);
+            }
+            hasNoCells(x, 8, 9, i);
+            due("put on a missing one makes none", x.count(1), 8);
+            for (int lane = 0; lane < 8; lane++) {
+                due("a row of two cells, put " + i, x.put(lane, i, 1), i == 0 || i == 1 ? 1 : QueryClasses.BAD);
+            }
+            x.drop(5);
+            hasNoCells(x, 5, 5, i);
+            x.share(7, 9);
+            hasNoCells(x, 7, 7, i);
+            x.column(5, 4, 0);
+            due("a row without cells, put " + i, x.put(5, i, 1), QueryClasses.BAD);
+        }
+    }
+
+    /** Whatever the BITS: MISSING COLUMNS answer NO, and a number of no COLUMN is BAD ahead of that. */
+    private static void hasNoCells(QueryClasses x, int from, int to, int i) {
+        for (long v : new long[] {0, 1, -1, 0x7FC00000, 0x7FF8000000000000L, LOST}) {
+            for (int c = from; c <= to; c++) {
+                due("put missing " + c + " " + i, x.put(c, i, v), QueryClasses.NO);
+                due("still missing " + c, x.about(c, 0), QueryClasses.NONE);
+                due("cell missing " + c + " " + i, x.cell(c, i), LOST);
+            }
+            for (int c : new int[] {-1, 10, Integer.MIN_VALUE, Integer.MAX_VALUE}) {
+                due("put no column " + c + " " + i, x.put(c, i, v), QueryClasses.BAD);
+            }
+        }
     }
 
     private static void putsNoNumbers() {
