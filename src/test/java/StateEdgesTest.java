@@ -469,6 +469,16 @@ public final class StateEdgesTest extends Edges {
                 x.share((c + 3) % 10, c);
             }
         }
+        for (int c = 0; c <= 9; c++) {
+            for (int d = 0; d <= 9; d++) {
+                if (c != d) {
+                    Probe y = new Probe().row(c, 4, 66);
+                    y.column(d, 4, 1);
+                    due("the row of " + c + " behind one of " + d, y.cell(c, 0), 66);
+                    due("the row of " + d, y.cell(d, 0), 0);
+                }
+            }
+        }
         x.column(0, 4, 1);
         x.share(1, 0);
         x.put(0, 0, 5);

@@ -358,6 +358,7 @@ public final class TextEdgesTest extends Edges {
         faulty("find yes and and no", 2, 13);
         faulty("find yes and or no", 2, 13);
         truth("yes and no or yes", "1:1 1800:4 1:0 1802:5 1:0 1801:8 1:1 1802:9 1:1");
+        truth("no or yes and yes", "1:0 1801:8 1:1 1800:6 1:1 1802:7 1:0 1802:9 1:1");
     }
 
     private void not() {
