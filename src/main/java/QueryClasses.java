@@ -515,21 +515,22 @@ public final class QueryClasses {
             return ((long) (power + bias - 1) << fraction) + digits;
         }
 
-        /** The greatest power of two that is not more than x, which is above 0 and has an end. */
+        /**
+         * The greatest power of two that is not more than x, which is above 0 and has an end;
+         * -1023 where that is less.
+         */
         private static int powerOf(double x) {
             int power = 0;
             double rest = x;
-            // Twice, as all steps together are 1023 and the least double is 2 to -1074.
-            for (int twice = 0; twice < 2; twice++) {
-                for (int step = 512; step >= 1; step /= 2) {
-                    double factor = twoTo(step);
-                    if (rest / factor >= 1) {
-                        rest /= factor;
-                        power += step;
-                    } else if (rest * factor < 2) {
-                        rest *= factor;
-                        power -= step;
-                    }
+            // All steps together are 1023: no less power than that has BITS of its own.
+            for (int step = 512; step >= 1; step /= 2) {
+                double factor = twoTo(step);
+                if (rest / factor >= 1) {
+                    rest /= factor;
+                    power += step;
+                } else if (rest * factor < 2) {
+                    rest *= factor;
+                    power -= step;
                 }
             }
             return power;

@@ -323,6 +323,9 @@ public final class CodeEdgesTest extends Edges {
         comes(1, "$0*$0", MAX);
         comes(-2, "$0+$0", MAX);
         comes(0, "$0*2", MIN);
+        comes(0, "$0*0", 7);
+        comes(0L, "$0*0", LOST);
+        comes(7L, "$0-0", 7L);
         comes(LOST, "$0+1", Long.MAX_VALUE);
         comes(Long.MAX_VALUE, "$0-1", LOST);
         comes(LOST, "$0*-1", LOST);
@@ -340,6 +343,12 @@ public final class CodeEdgesTest extends Edges {
         comes(0.1 + 0.2, "$0+$1", 0.1, 0.2);
         comes(0.1f * 0.2f, "$0*$1", 0.1f, 0.2f);
         comes(0.0, "$0+$1", 0.0, -0.0);
+        // The greatest that are not infinite.
+        comes(0.0, "$0+$1", Double.MAX_VALUE, -Double.MAX_VALUE);
+        comes(0.0, "$0-$0", -Double.MAX_VALUE);
+        comes(-0.0, "$0*0", -Double.MAX_VALUE);
+        comes(0.0, "$0*0", Double.MAX_VALUE);
+        comes(0f, "$0-$0", -Float.MAX_VALUE);
         comes(-0.0, "$0+$0", -0.0);
         sum("1+2", "1:1 1:2 101");
         sum("$5-$5", "3 15:5 3 15:5 202");
@@ -370,6 +379,8 @@ public final class CodeEdgesTest extends Edges {
         fails(ENDLESS, 4, "$0/$1", -INFINITE, INFINITE);
         fails(ENDLESS, 4, "$0/$0", 0f);
         fails(ENDLESS, 4, "$0/$0", FLOAT_INFINITE);
+        comes(1.0, "$0/$0", -Double.MAX_VALUE);
+        comes(1.0, "$0/$0", Double.MAX_VALUE);
         comes(1f / 3f, "$0/3", 1f);
         comes(1.0 / 3.0, "$0/3", 1.0);
     }
@@ -391,6 +402,12 @@ public final class CodeEdgesTest extends Edges {
         comes(7.0, "$0%$1", 7.0, INFINITE);
         comes(7f, "$0%$1", 7f, -FLOAT_INFINITE);
         comes(-1.0, "$0%2", -7.0);
+        comes(0.0, "$0%$0", 7.0);
+        comes(-0.0, "$0%$0", -7.0);
+        comes(0f, "$0%$1", 7f, -7f);
+        comes(0.0, "$0%$0", Double.MAX_VALUE);
+        comes(-0.0, "$0%$0", -Double.MAX_VALUE);
+        comes(0.0, "$0%$0", Double.MIN_VALUE);
         comes(1.0, "$0%-2", 7.0);
         comes(-0.0, "$0%2", -4.0);
         comes(-0.0, "$0%2", -0.0);
@@ -663,6 +680,10 @@ public final class CodeEdgesTest extends Edges {
         for (boolean a : both) {
             holds(!a, "not $0", a);
             holds(a, "not not $0", a);
+            holds(true, "(not $0)=$1", a, !a);
+            holds(true, "(not $0)!=$1", a, a);
+            holds(!a, "(not $0)&yes", a);
+            holds(true, "($0 or no)=$0 and ($0 and yes)=$0", a);
             for (boolean b : both) {
                 holds(a && b, "$0 and $1", a, b);
                 holds(a || b, "$0 or $1", a, b);

@@ -162,6 +162,14 @@ public final class FaultEdgesTest extends Edges {
         }
         good("find " + "not ".repeat(12) + "yes");
         faulty("find " + "not ".repeat(13) + "yes", 3, 53);
+        // None is open behind a text that had a FAULT, whatever was open in that.
+        for (String odd : new String[] {"find abs 1", "find ((((yes", "find ))", "find $4[1", "find not not", "fold sum yes?1"}) {
+            Probe x = lanes();
+            x.query(odd);
+            due("twelve behind '" + odd + "'", x.query("find " + "(".repeat(12) + "yes" + ")".repeat(12)), 0);
+            x.query(odd);
+            due("thirteen behind '" + odd + "'", x.query("find " + "(".repeat(13) + "yes" + ")".repeat(13)), -27);
+        }
         // All kinds of them are counted as one.
         String mixed = "not not ($4[-(~abs(yes?1:max($4[-(";
         good("find " + mixed.substring(0, mixed.length() - 1) + "1],1)))]=1)");
@@ -328,28 +336,43 @@ public final class FaultEdgesTest extends Edges {
         return PENDING + rest[n - 21] + CLOSED;
     }
 
+    private void tooMuch(String text) {
+        faulty(text, 6, text.length());
+    }
+
     private void pileOf24() {
-        String[] ahead = {"find 1=1 or ", "find yes order ", "fold max ", "fold count by "};
-        for (String words : ahead) {
-            String behind = words.endsWith("or ") ? "=1" : "";
-            good(words + pile(24) + behind);
-            String text = words + pile(25) + behind;
-            faulty(text, 6, text.length());
+        for (String words : new String[] {"find yes order ", "fold max ", "fold count by "}) {
+            good(words + pile(24));
+            tooMuch(words + pile(25));
         }
+        good("find 1=1 or " + pile(24) + "=1");
+        tooMuch("find 1=1 or " + pile(25) + "=1");
         good("find 1=" + pile(23));
-        String text = "find 1=" + pile(24);
-        faulty(text, 6, text.length());
+        tooMuch("find 1=" + pile(24));
         good("set $4 := " + pile(23));
-        text = "set $4 := " + pile(24);
-        faulty(text, 6, text.length());
+        tooMuch("set $4 := " + pile(24));
+        pileOfLeaves();
         // Where two ways meet there is as much as each leaves, and a truth that is taken is gone.
         good("fold max " + PENDING + "1|1<<1+(yes and no or yes?1:2)" + CLOSED);
-        text = "fold max " + PENDING + "1|1<<1+1*(yes?1:2)" + CLOSED;
-        faulty(text, 6, text.length());
-        text = "fold max " + PENDING + "1|1<<1+(yes?1+1:2)" + CLOSED;
-        faulty(text, 6, text.length());
-        text = "fold max " + PENDING + "1|1<<1+(yes?1:2+2)" + CLOSED;
-        faulty(text, 6, text.length());
+        tooMuch("fold max " + PENDING + "1|1<<1+1*(yes?1:2)" + CLOSED);
+        tooMuch("fold max " + PENDING + "1|1<<1+(yes?1+1:2)" + CLOSED);
+        tooMuch("fold max " + PENDING + "1|1<<1+(yes?1:2+2)" + CLOSED);
+    }
+
+    /** Whatever is laid on 23 is the 24th; on 24 it is too much. What lies below all else counts as well. */
+    private void pileOfLeaves() {
+        String[] ones = {"1", "row", "$4", "$4[1]", "-1", "~1", "byte(1)", "abs(1)", "int(floor(1))", "int(1.5)", "(yes?1:2)",
+            "(yes and no or not no?1:2)", "(yes?int(1.5):2)", "($0?1:2)", "(not $0[1]?1:2)"};
+        for (String one : ones) {
+            good("fold max " + PENDING + "1|1<<1+" + one + CLOSED);
+            tooMuch("fold max " + PENDING + "1|1<<1+1*" + one + CLOSED);
+            good("fold max " + one + PENDING.substring(1) + "1|1<<1+1" + CLOSED);
+            tooMuch("fold max " + one + PENDING.substring(1) + "1|1<<1+1*1" + CLOSED);
+        }
+        for (String two : new String[] {"1+1", "min(1,1)", "(1<1?1:2)", "(1=1 or 1=1?1:2)", "$4[1+1]", "int(1.5+1.5)"}) {
+            good("fold max " + PENDING + "1|1<<(" + two + ")" + CLOSED);
+            tooMuch("fold max " + PENDING + "1|1<<1+(" + two + ")" + CLOSED);
+        }
     }
 
     private void lengthOfLongCode() {
@@ -359,6 +382,14 @@ public final class FaultEdgesTest extends Edges {
         faulty("fold max " + pile(25) + " ", 6, 10 + pile(25).length());
         String text = "fold max " + acts(201);
         faulty(text + " ".repeat(400 - text.length()), 6, 400);
+        // A text that is too much leaves nothing behind.
+        for (String words : new String[] {"find yes order ", "fold count by ", "fold max "}) {
+            Probe x = lanes();
+            due("a PILE of 25", x.query(words + pile(25)), -10 - words.length() - pile(25).length());
+            due("a text behind it", x.query("fold max 1 where yes by 1"), 0);
+            due("201 ACTS", x.query(words + acts(201)), -10 - words.length() - acts(201).length());
+            due("a text behind them", x.query("fold max 1 where yes by 1"), 1);
+        }
     }
 
     private void readAhead() {

@@ -534,6 +534,21 @@ public final class RunEdgesTest extends Edges {
         }
         due("a RUN behind it", x.run(0), 4);
         due("its HITS", x.hit(3), 3);
+        // However many of them, they leave nothing on the PILE.
+        x = made(1);
+        String deep = "1|1<<1+1*(".repeat(5);
+        x.query("fold max " + deep + "1/0" + ")".repeat(5));
+        x.query("fold max " + deep + "1|1<<1+1" + ")".repeat(5));
+        for (int round = 0; round < 30; round++) {
+            due("a RUN that fails with 20 on the PILE", x.run(0), -10);
+        }
+        due("one that needs 24", x.run(1), 1);
+        due("its VALUE", x.value(0), 1 | 1 << 1 + deepest(4));
+    }
+
+    /** 1|1<<1+1*(.. so many times. */
+    private static int deepest(int times) {
+        return times == 0 ? 1 | 1 << 1 + 1 : 1 | 1 << 1 + deepest(times - 1);
     }
 
     private void promise16() {

@@ -632,6 +632,13 @@ public final class TextEdgesTest extends Edges {
         Probe x = new Probe().text("find yes or no");
         x.end(10);
         due("cut within a WORD", x.query(), -19);
+        x.text("find 1>>>1=1");
+        x.end(8);
+        due("cut within a SIGN", x.query(), -18);
+        x.text("find yes!=no");
+        x.end(9);
+        due("cut within != ", x.query(), -18);
+        due("is no TOKEN", x.fault(), 1);
         x.text("find $0");
         x.end(6);
         due("cut within a COLUMN", x.query(), -15);
