@@ -323,6 +323,11 @@ public final class FaultEdgesTest extends Edges {
         x = lanes();
         due("200 with jumps", x.query("fold max yes?(" + "1+".repeat(97) + "1):1.5"), 0);
         due("ACTS", x.acts(0, 1), 200);
+        int[][] last = {{196, 101, 0}, {197, 1614, 0}, {198, 1802, 200}, {199, 2, 0}, {1, 1800, 199}};
+        for (int[] act : last) {
+            due("op of ACT " + act[0], x.act(0, 1, act[0], 0), act[1]);
+            due("a of ACT " + act[0], x.act(0, 1, act[0], 1), act[2]);
+        }
         String text = "fold max yes?(-" + "1+".repeat(97) + "1):1.5";
         faulty(text, 6, text.length());
         faulty("fold max 1" + "+1".repeat(195), 6, 400);

@@ -184,15 +184,18 @@ public final class RunEdgesTest extends Edges {
     private void takenBack() {
         for (int lane = 0; lane < 8; lane++) {
             Probe x = made(16);
-            x.column(lane, lane, 16);
-            for (int i = 0; i < 16; i++) {
-                x.put(lane, i, i % 2);
+            for (int c = 0; c < 8; c++) {
+                x.column(c, c, 16);
+                for (int i = 0; i < 16; i++) {
+                    x.put(c, i, i + c & 1);
+                }
             }
             x.share(8, lane);
-            String sum = lane == 0 ? "1/(15-row)=0" : "1/(15-row)";
-            fails(x, "set $8 := " + sum, 15, ZERO, 1, 5);
-            for (int i = 0; i < 16; i++) {
-                due("CELL " + i + " of LANE " + lane, x.cell(lane, i), i % 2);
+            fails(x, "set $8 := 1/(15-row)" + (lane == 0 ? "=0" : ""), 15, ZERO, 1, 5);
+            for (int c = 0; c < 8; c++) {
+                for (int i = 0; i < 16; i++) {
+                    due("CELL " + i + " of COLUMN " + c + " behind set of " + lane, x.cell(c, i), i + c & 1);
+                }
             }
         }
         Probe x = made(2);

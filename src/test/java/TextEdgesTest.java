@@ -502,6 +502,9 @@ public final class TextEdgesTest extends Edges {
         sum("((yes?1:2))", "1:1 1800:4 1:1 1802:5 1:2");
         sum("abs((1))", "1:1 1701");
         sum("abs(yes?1:2)", "1:1 1800:4 1:1 1802:5 1:2 1701");
+        sum("min(1+2,3+4)", "1:1 1:2 101 1:3 1:4 101 1751");
+        sum("max(yes?1:2,yes?3:4)", "1:1 1800:4 1:1 1802:5 1:2 1:1 1800:9 1:3 1802:10 1:4 1761");
+        truth("(yes or no)", "1:1 1801:4 1:0 1802:5 1:1");
         faulty("find ()", 2, 6);
         faulty("find (yes", 2, 9);
         faulty("find (yes]", 2, 9);
