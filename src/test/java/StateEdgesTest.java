@@ -393,6 +393,23 @@ public final class StateEdgesTest extends Edges {
         holds(x, 0, LOST, 1);
         holds(x, 0, 0, 0);
         holds(x, 5, LOST, LOST);
+        allPowers();
+    }
+
+    /** Of each power of two the least number, the one behind it and the greatest, on both sides of 0. */
+    private void allPowers() {
+        for (long power = 0; power < 2047; power++) {
+            Probe x = full();
+            for (long digits : new long[] {0, 1, (1L << 52) - 1}) {
+                holds(x, 7, power << 52 | digits, power << 52 | digits);
+                holds(x, 7, LOST | power << 52 | digits, LOST | power << 52 | digits);
+                if (power < 255) {
+                    int bits = (int) (power << 23 | digits & (1 << 23) - 1);
+                    holds(x, 6, bits, bits);
+                    holds(x, 6, MIN | bits, MIN | bits);
+                }
+            }
+        }
     }
 
     private void promise1() {
